@@ -479,7 +479,7 @@ public final class LearnedReasons {
         private static final int WORD_SHIFT = 5;
 
         private static final int WORD_MASK = (1 << WORD_SHIFT) - 1;
-        private static final int WORDS = 1 << NAMES_MAX - WORD_SHIFT;
+        private static final int WORDS = 1 << (NAMES_MAX - WORD_SHIFT);
 
         private int size;
         private final int[] clauses = new int[LEARNED_MAX];
@@ -509,6 +509,7 @@ public final class LearnedReasons {
             clauses[size] = clause;
             size++;
             int others = allNames & ~clause;
+            // Each set of the others is less than the one before it, down to none of them.
             for (int more = others; more > 0; more = (more - 1) & others) {
                 bar(clause | more);
             }
@@ -516,11 +517,11 @@ public final class LearnedReasons {
         }
 
         private void bar(int set) {
-            barred[set >> WORD_SHIFT & WORDS - 1] |= 1 << (set & WORD_MASK);
+            barred[(set >> WORD_SHIFT) & (WORDS - 1)] |= 1 << (set & WORD_MASK);
         }
 
         boolean bars(int set) {
-            int word = barred[set >> WORD_SHIFT & WORDS - 1];
+            int word = barred[(set >> WORD_SHIFT) & (WORDS - 1)];
             return (word >> (set & WORD_MASK) & 1) == 1;
         }
     }
@@ -772,7 +773,7 @@ public final class LearnedReasons {
         private void learn(int reason) {
             learnedClauses.add(reason, things.allNames());
             int lastButOne = latest(reason & ~latest(reason));
-            choices &= lastButOne == 0 ? 0 : lastButOne | lastButOne - 1;
+            choices &= lastButOne == 0 ? 0 : 2 * lastButOne - 1;
         }
 
         private static int latest(int names) {
@@ -968,7 +969,7 @@ public final class LearnedReasons {
         }
 
         private int sumOf(int set) {
-            return lowSums[set & (HALF_SETS - 1)] + highSums[set >> HALF & (HALF_SETS - 1)];
+            return lowSums[set & (HALF_SETS - 1)] + highSums[(set >> HALF) & (HALF_SETS - 1)];
         }
 
         private void mark(int set, int thing, boolean isBroken) {

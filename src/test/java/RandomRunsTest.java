@@ -53,7 +53,34 @@ public final class RandomRunsTest {
             test.begin(7 + run % 4, 16 + run % 17);
             test.goOn(Math.min(test.made + 60, CALLS_MOST));
         }
+        for (int run = 2000; run < 2300; run++) {
+            RandomRunsTest test = new RandomRunsTest(check, run);
+            test.beginTight(6 + run % 9);
+            test.askSearch();
+        }
         check.end();
+    }
+
+    /** About as many THINGS as leave few MODELS or none, so that much is LEARNED. */
+    private void beginTight(int namesFirst) {
+        for (int n = 0; n < namesFirst; n++) make(Call.NAME, 0, 0, 0);
+        int clauses = Math.min(55, namesFirst * 7 / 2 + random.nextInt(namesFirst));
+        for (int t = 0; t < clauses; t++) {
+            for (int i = 0; i < 3; i++) make(Call.LITERAL, random.nextInt(2 * names), 0, 0);
+            make(Call.CLAUSE, 0, 0, 0);
+        }
+        for (int i = random.nextInt(3); i > 0; i--) makeRow();
+    }
+
+    private void askSearch() {
+        for (int what = 0; what < 3; what++) make(Call.TOLD, what, 0, 0);
+        int clauses = Math.min(10, tried.told(2));
+        for (int k = 0; k <= clauses; k++) {
+            for (int i = 0; i < 6; i++) make(Call.LEARNED, k, i, 0);
+        }
+        make(Call.SEARCH, 0, 0, 0);
+        make(Call.VALUE, names / 2, 0, 0);
+        make(Call.CORE, 0, 0, 0);
     }
 
     private void begin(int namesFirst, int thingsFirst) {

@@ -55,12 +55,16 @@ public final class LearnedReasons {
         if (!isLiteral(l)) {
             return NO_SUCH;
         }
-        if (handSize() >= LITERALS_MAX) {
+        int wantTrue = handTrue | nameWantedTrue(l);
+        int wantFalse = handFalse | nameWantedFalse(l);
+        // A LITERAL that comes again takes no room, so what counts is how many there would be.
+        int size = literalsIn(wantTrue, wantFalse);
+        if (size > LITERALS_MAX) {
             return NO_ROOM;
         }
-        handTrue |= nameWantedTrue(l);
-        handFalse |= nameWantedFalse(l);
-        return handSize();
+        handTrue = wantTrue;
+        handFalse = wantFalse;
+        return size;
     }
 
     public int clause() {
@@ -263,10 +267,6 @@ public final class LearnedReasons {
     private void emptyHand() {
         handTrue = 0;
         handFalse = 0;
-    }
-
-    private int handSize() {
-        return literalsIn(handTrue, handFalse);
     }
 
     private boolean isLiteral(int l) {

@@ -47,7 +47,7 @@ final class PlainReasons {
 
     int literal(int l) {
         if (l < 0 || !isName(l / 2)) return -1;
-        if (hand.size() == 8) return -4;
+        if (hand.size() == 8 && !hand.contains(l)) return -4;
         hand.add(l);
         return hand.size();
     }

@@ -118,11 +118,21 @@ public final class PromiseTest {
         for (int l : new int[] {-1, -2, LEAST, MOST, 1 << 30, 64}) due("3: " + l, x.literal(l), -1);
         for (int l = 0; l < 6; l++) due("3: more", x.literal(l), 3 + l);
         due("3: it has 8", x.literal(6), -4);
-        due("3: whichever comes", x.literal(17), -4);
+        due("3: nor is there room for the next", x.literal(7), -4);
+        for (int l : new int[] {0, 1, 2, 3, 4, 5, 16, 17}) {
+            due("3: what comes again takes no room", x.literal(l), 8);
+        }
+        due("3: and makes none", x.literal(6), -4);
         due("3: no such NAME comes first", x.literal(18), -1);
         due("3: the 8 are a CLAUSE", x.clause(), 0);
         due("3: one is at hand anew", x.literal(6), 1);
         due("3: of which one must be so", x.count(), 512);
+        LearnedReasons z = withNames(8);
+        for (int n = 0; n < 8; n++) due("3: one of each NAME", z.literal(2 * n), n + 1);
+        due("3: an opposite is not the same again", z.literal(1), -4);
+        due("3: the same again is", z.literal(0), 8);
+        z.clause();
+        due("3: the 8 stay as they were", z.count(), 255);
         LearnedReasons y = withNames(3);
         addClause(y, 0, 3);
         due("3: a LITERAL is of its NAME", y.count(), 6);

@@ -178,6 +178,7 @@ public final class LearnedReasons {
     }
 
     public int search() {
+        theSearch.run();
         return theSearch.hasModel() ? 1 : 0;
     }
 
@@ -185,6 +186,7 @@ public final class LearnedReasons {
         if (!things.isName(name)) {
             return NO_SUCH;
         }
+        theSearch.run();
         if (!theSearch.hasModel()) {
             return NO_MODEL;
         }
@@ -192,6 +194,7 @@ public final class LearnedReasons {
     }
 
     public int told(int what) {
+        theSearch.run();
         switch (what) {
             case 0:
                 return theSearch.conflicts();
@@ -205,6 +208,7 @@ public final class LearnedReasons {
     }
 
     public int learned(int k, int i) {
+        theSearch.run();
         if (k < 0 || k >= theSearch.learnedClauses()) {
             return NO_SUCH;
         }
@@ -213,35 +217,35 @@ public final class LearnedReasons {
     }
 
     public int count() {
-        return models.howMany();
+        return models.modelCount();
     }
 
     public int fixed(int name) {
         if (!things.isName(name)) {
             return NO_SUCH;
         }
-        if (models.howMany() == 0) {
+        if (models.modelCount() == 0) {
             return NO_MODEL;
         }
         return truthOf(name, models.trueInAll(), models.falseInAll());
     }
 
     public int best() {
-        return models.howMany() == 0 ? NO_MODEL : models.leastCost();
+        return models.modelCount() == 0 ? NO_MODEL : models.leastCost();
     }
 
     public int bestValue(int name) {
         if (!things.isName(name)) {
             return NO_SUCH;
         }
-        if (models.howMany() == 0) {
+        if (models.modelCount() == 0) {
             return NO_MODEL;
         }
         return models.firstBest() >> name & 1;
     }
 
     public int core(int k) {
-        if (models.howMany() != 0) {
+        if (models.modelCount() != 0) {
             return OUTSIDE;
         }
         int thing = placeOfBit(models.coreThings(), k);
@@ -657,7 +661,7 @@ public final class LearnedReasons {
         }
     }
 
-    /** THE SEARCH, done when it is first asked of after a change. */
+    /** THE SEARCH, done once after a change of NAMES or THINGS. */
     private static final class Search {
         /** Far above the CONFLICTS and CHOICES that can come: 2 to the 13, and 14 to each. */
         private static final int STEPS_MAX = 1_000_000;
@@ -686,43 +690,14 @@ public final class LearnedReasons {
             isDone = false;
         }
 
-        boolean hasModel() {
-            run();
-            return found;
-        }
-
-        int firstModel() {
-            run();
-            return model;
-        }
-
-        int conflicts() {
-            run();
-            return conflicts;
-        }
-
-        int choicesMade() {
-            run();
-            return choicesMade;
-        }
-
-        int learnedClauses() {
-            run();
-            return learnedClauses.howMany();
-        }
-
-        int learnedClause(int k) {
-            run();
-            return learnedClauses.at(k);
-        }
-
-        private void run() {
+        /** Nothing below tells of the present THINGS before this was called. */
+        void run() {
             if (isDone) {
                 return;
             }
             start();
             for (int step = 0; step < STEPS_MAX && !isDone; step++) {
-                if (!clashesFrom(choices)) {
+                if (!atOnce.clashes(0, choices, AtOnce.WITH_LEARNED)) {
                     choose();
                 } else {
                     conflicts++;
@@ -734,6 +709,30 @@ public final class LearnedReasons {
             }
         }
 
+        boolean hasModel() {
+            return found;
+        }
+
+        int firstModel() {
+            return model;
+        }
+
+        int conflicts() {
+            return conflicts;
+        }
+
+        int choicesMade() {
+            return choicesMade;
+        }
+
+        int learnedClauses() {
+            return learnedClauses.howMany();
+        }
+
+        int learnedClause(int k) {
+            return learnedClauses.at(k);
+        }
+
         private void start() {
             learnedClauses.removeAll();
             found = false;
@@ -741,10 +740,6 @@ public final class LearnedReasons {
             conflicts = 0;
             choicesMade = 0;
             choices = 0;
-        }
-
-        private boolean clashesFrom(int falseNames) {
-            return atOnce.clashes(0, falseNames, AtOnce.WITH_LEARNED);
         }
 
         private void choose() {
@@ -763,7 +758,7 @@ public final class LearnedReasons {
             int left = choices;
             for (int n = NAMES_MAX - 1; n >= 0; n--) {
                 int without = left & ~(1 << n);
-                if (without != left && clashesFrom(without)) {
+                if (without != left && atOnce.clashes(0, without, AtOnce.WITH_LEARNED)) {
                     left = without;
                 }
             }
@@ -825,7 +820,7 @@ public final class LearnedReasons {
             Arrays.fill(costs, 0);
         }
 
-        int howMany() {
+        int modelCount() {
             countAll();
             return size;
         }

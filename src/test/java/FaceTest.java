@@ -8,7 +8,11 @@ import java.nio.file.Path;
 import java.util.ArrayList;
 import java.util.Arrays;
 import java.util.Collections;
+import java.util.HashMap;
 import java.util.List;
+import java.util.Map;
+import java.util.Set;
+import java.util.TreeSet;
 import java.util.regex.Matcher;
 import java.util.regex.Pattern;
 
@@ -103,6 +107,41 @@ public final class FaceTest {
         for (String line : code.split("\n")) if (line.startsWith("import")) imports.add(line);
         check.that("imports " + imports, imports.equals(Arrays.asList("import java.util.Arrays;")));
         check.that("no package", !code.contains("package "));
+        lookAtMethods(code);
         for (char c : text.toCharArray()) if (c > 126) check.that("plain letters, not " + c, false);
+    }
+
+    /** Methods of one name in several classes count as one: the depth is at least the true one. */
+    private void lookAtMethods(String code) {
+        Map<String, Set<String>> calls = new HashMap<>();
+        String heads = "(?m)^( +)\\w[\\w\\[\\] ]+ (\\w+)\\([^()]*\\) \\{$";
+        Matcher head = Pattern.compile(heads).matcher(code);
+        while (head.find()) {
+            int end = code.indexOf("\n" + head.group(1) + "}", head.end());
+            String body = code.substring(head.end(), end);
+            check.that(head.group(2) + " is short", body.split("\n").length <= 60);
+            Matcher call = Pattern.compile("\\b([a-z]\\w*)\\(").matcher(body);
+            Set<String> called = calls.computeIfAbsent(head.group(2), none -> new TreeSet<>());
+            while (call.find()) called.add(call.group(1));
+        }
+        for (String face : FACE) {
+            String name = face.substring(0, face.indexOf('('));
+            check.that(name + " is found", calls.containsKey(name));
+            List<String> deepest = deepest(name, calls, new ArrayList<>());
+            check.that("at most eight deep, not " + deepest, deepest.size() <= 8);
+        }
+    }
+
+    private static List<String> deepest(
+            String name, Map<String, Set<String>> calls, List<String> above) {
+        List<String> path = new ArrayList<>(above);
+        path.add(name);
+        List<String> most = path;
+        for (String next : calls.getOrDefault(name, Set.of())) {
+            if (path.contains(next)) continue;
+            List<String> way = deepest(next, calls, path);
+            if (way.size() > most.size()) most = way;
+        }
+        return most;
     }
 }

@@ -1,10 +1,5 @@
 /** For each promise of the document: ordinary inputs, the edges that it names, and wrong inputs. */
-public final class PromiseTest {
-    private static final int LEAST = Integer.MIN_VALUE;
-    private static final int MOST = Integer.MAX_VALUE;
-
-    private final Check check = new Check();
-
+public final class PromiseTest extends Due {
     public static void main(String[] args) {
         PromiseTest test = new PromiseTest();
         test.promise1NewObject();
@@ -35,37 +30,6 @@ public final class PromiseTest {
         test.promise23BestValue();
         test.promise24Core();
         test.check.end();
-    }
-
-    private void due(String what, int got, int want) {
-        check.due(what, got, want);
-    }
-
-    private static LearnedReasons withNames(int names) {
-        LearnedReasons x = new LearnedReasons();
-        for (int n = 0; n < names; n++) x.name();
-        return x;
-    }
-
-    private static int addClause(LearnedReasons x, int... literals) {
-        for (int l : literals) x.literal(l);
-        return x.clause();
-    }
-
-    private static int addRow(LearnedReasons x, int bound, int... weights) {
-        int row = x.row(bound);
-        for (int n = 0; n < weights.length; n++) x.weight(row, n, weights[n]);
-        return row;
-    }
-
-    private static int tryLemma(LearnedReasons x, int... literals) {
-        for (int l : literals) x.literal(l);
-        return x.lemma();
-    }
-
-    /** A LEMMA is there in a new object with a NAME: NAME 0 is true or false. */
-    private static void keepLemma(LearnedReasons x) {
-        tryLemma(x, 0, 1);
     }
 
     private void promise1NewObject() {

@@ -779,12 +779,9 @@ public final class PromiseBoundaryTest extends Due {
     /** 19: "-1", i too small or too large. */
     private void promise19NoSuchPlace() {
         LearnedReasons x = withNames(14);
-        // Not all of the first 13 are false: of 12 false ones a REASON, and no CHOICE stays free.
-        for (int n = 0; n < 12; n++) x.literal(n < 7 ? 2 * n : 26);
-        x.clause();
-        addLiterals(x, 0, 2, 4, 6, 8, 10, 12);
-        x.literal(27);
-        x.clause();
+        // With NAMES 0 to 6 false, NAME 13 would have to be true and false.
+        addClause(x, 0, 2, 4, 6, 8, 10, 12, 26);
+        addClause(x, 0, 2, 4, 6, 8, 10, 12, 27);
         for (int i = 0; i < 7; i++) due("19: LITERAL " + i, x.learned(0, i), 2 * i);
         for (int i : new int[] {-1, 7, 8, 13, 14, 59, 60, 64, LEAST, LEAST + 1, MOST}) {
             due("19: no place " + i, x.learned(0, i), -1);

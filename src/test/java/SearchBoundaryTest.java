@@ -23,6 +23,7 @@ public final class SearchBoundaryTest extends Due {
         test.aReasonOfThree();
         test.aReasonFromTheLatest();
         test.aReasonOfLearned();
+        test.aLearnedClauseThatIsNotSo();
         test.allNamesAreKnown();
         test.theCoreFromTheGreatest();
         test.theCoreOfAll();
@@ -328,6 +329,31 @@ public final class SearchBoundaryTest extends Due {
         due("LEARNED: no more", x.learned(3, 0), -1);
         due("LEARNED: the last CONFLICT teaches nothing", x.told(0), 4);
         due("LEARNED: three", x.told(2), 3);
+    }
+
+    /**
+     * "all LITERALS of a CLAUSE are KNOWN not to be so" holds of a LEARNED one too: it alone bars
+     * CHOICES 0 and 4, by which THINGS tell that NAME 1 is false.
+     */
+    private void aLearnedClauseThatIsNotSo() {
+        LearnedReasons x = withNames(6);
+        addClause(x, 0, 2, 4, 6);
+        addClause(x, 0, 2, 4, 7);
+        addClause(x, 0, 2, 5, 6);
+        addClause(x, 0, 2, 5, 7);
+        addClause(x, 8, 10);
+        addClause(x, 8, 11, 3);
+        for (int i = 0; i < 3; i++) due("LEARNED, not so: 0, 1 and 2", x.learned(0, i), 2 * i);
+        due("LEARNED, not so: by it 0 ..", x.learned(1, 0), 0);
+        due("LEARNED, not so: .. and 1", x.learned(1, 1), 2);
+        due("LEARNED, not so: .. alone", x.learned(1, 2), -1);
+        due("LEARNED, not so: by that one 0 ..", x.learned(2, 0), 0);
+        due("LEARNED, not so: .. and 4", x.learned(2, 1), 8);
+        due("LEARNED, not so: .. alone", x.learned(2, 2), -1);
+        due("LEARNED, not so: three", x.told(2), 3);
+        due("LEARNED, not so: CONFLICTS", x.told(0), 3);
+        // 0, 1, 2; then 2, 3, 4, of which 2 and 3 go with 4 and are made again; then 5.
+        due("LEARNED, not so: CHOICES", x.told(1), 9);
     }
 
     /** "if all NAMES are KNOWN, that is the MODEL". */

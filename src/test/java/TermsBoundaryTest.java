@@ -9,6 +9,7 @@ public final class TermsBoundaryTest extends Due {
         test.namesAre14AtMost();
         test.literalsAreTwoOfEachName();
         test.thingsAre60AtMost();
+        test.theLastRowOfAllNames();
         test.thingsThatWereDroppedAreCounted();
         test.aNumberDoesNotComeAgain();
         test.clausesHaveUpTo8Literals();
@@ -109,6 +110,26 @@ public final class TermsBoundaryTest extends Due {
         due("60 THINGS: a MODEL still", y.count(), 1);
         due("60 THINGS: so many are left", x.drop(59), 59);
         due("60 THINGS: and here", y.drop(0), 59);
+    }
+
+    /** Both bounds at once: the 60th THING is a ROW, and there are 14 NAMES. */
+    private void theLastRowOfAllNames() {
+        LearnedReasons x = withNames(14);
+        for (int t = 0; t < 59; t++) x.row(0);
+        due("the last ROW: its number", addRow(x, 1, times(14, 1)), 59);
+        due("the last ROW: no CONFLICT", x.conflict(), 0);
+        due("the last ROW: nothing is KNOWN", x.known(13), 2);
+        x.assume(0);
+        due("the last ROW: the last NAME is false", x.known(13), 0);
+        x.assume(26);
+        due("the last ROW: two are too many", x.conflict(), 1);
+        due("the last ROW: a LEMMA", tryLemma(x, 1, 27), 1);
+        due("the last ROW: none or one", x.count(), 15);
+        due("the last ROW: the search", x.told(1), 14);
+        due("the last ROW: a WEIGHT", x.weight(59, 13, -2), 1);
+        due("the last ROW: with NAME 13 up to three more, else one", x.count(), 14 + 1 + 13 + 78 + 286);
+        due("the last ROW: it goes", x.drop(59), 59);
+        due("the last ROW: all again", x.count(), 16384);
     }
 
     /** ".. those that were dropped counted". */

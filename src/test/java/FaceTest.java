@@ -107,8 +107,18 @@ public final class FaceTest {
         for (String line : code.split("\n")) if (line.startsWith("import")) imports.add(line);
         check.that("imports " + imports, imports.equals(Arrays.asList("import java.util.Arrays;")));
         check.that("no package", !code.contains("package "));
+        lookAtLibrary(code);
         lookAtMethods(code);
         for (char c : text.toCharArray()) if (c > 126) check.that("plain letters, not " + c, false);
+    }
+
+    /** What README.md says of the library, all of which rule 4 lists. */
+    private void lookAtLibrary(String code) {
+        Set<String> used = new TreeSet<>();
+        Matcher found = Pattern.compile("\\b[A-Z]\\w*\\.[a-z]\\w*(?=\\()").matcher(code);
+        while (found.find()) used.add(found.group());
+        List<String> listed = List.of("Arrays.fill", "Integer.bitCount", "Long.bitCount");
+        check.that("of the library, not " + used, List.copyOf(used).equals(listed));
     }
 
     /** Methods of one name in several classes count as one: the depth is at least the true one. */

@@ -814,7 +814,7 @@ public final class PromiseBoundaryTest extends Due {
         due("20: two", x.count(), 2);
     }
 
-    /** 20: "all sets a MODEL, 14 NAMES". */
+    /** 20: every set of true NAMES is a MODEL, of no NAMES up to 14; then all sets but a few. */
     private void promise20AllSets() {
         LearnedReasons x = new LearnedReasons();
         due("20: no NAMES", x.count(), 1);

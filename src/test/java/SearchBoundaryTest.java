@@ -368,7 +368,7 @@ public final class SearchBoundaryTest extends Due {
         for (int n = 0; n < 14; n++) due("all KNOWN: NAME " + n, x.value(n), 1 - n % 2);
     }
 
-    /** "from the one with the greatest number down, each is left out without which there is none". */
+    /** "of the THINGS, from the one with the greatest number down, each is left out ..". */
     private void theCoreFromTheGreatest() {
         LearnedReasons x = withNames(2);
         addClause(x, 0);
